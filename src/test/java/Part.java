@@ -1,0 +1,84 @@
+import java.util.ArrayList;
+import java.util.IdentityHashMap;
+import java.util.List;
+import java.util.Map;
+
+/** A part of a table that is being written: numbers, and places of other parts. */
+final class Part {
+    private record Item(int size, int number, Part to) {
+    }
+
+    private final List<Item> items = new ArrayList<>();
+
+    static Part of(int... numbers) {
+        return new Part().u16(numbers);
+    }
+
+    Part u16(int... numbers) {
+        for (int number : numbers) {
+            items.add(new Item(2, number, null));
+        }
+        return this;
+    }
+
+    Part u32(int number) {
+        items.add(new Item(4, number, null));
+        return this;
+    }
+
+    /** A place of two bytes; null for 0. */
+    Part to(Part... parts) {
+        for (Part part : parts) {
+            items.add(new Item(2, 0, part));
+        }
+        return this;
+    }
+
+    Part far(Part part) {
+        items.add(new Item(4, 0, part));
+        return this;
+    }
+
+    private int size() {
+        int size = 0;
+        for (Item item : items) {
+            size += item.size;
+        }
+        return size;
+    }
+
+    /** This part first, and behind each part those that it leads to. */
+    byte[] bytes() {
+        List<Part> order = new ArrayList<>();
+        visit(this, order, new IdentityHashMap<>());
+        Map<Part, Integer> at = new IdentityHashMap<>();
+        int size = 0;
+        for (int k = order.size() - 1; k >= 0; k--) {
+            at.put(order.get(k), size);
+            size += order.get(k).size();
+        }
+        byte[] bytes = new byte[size];
+        for (Part part : order) {
+            int i = at.get(part);
+            for (Item item : part.items) {
+                int number = item.to == null ? item.number : at.get(item.to) - at.get(part);
+                for (int shift = 8 * (item.size - 1); shift >= 0; shift -= 8) {
+                    bytes[i++] = (byte) (number >> shift);
+                }
+            }
+        }
+        return bytes;
+    }
+
+    private static void visit(Part part, List<Part> order, Map<Part, Boolean> seen) {
+        if (seen.put(part, true) != null) {
+            return;
+        }
+        for (Item item : part.items) {
+            if (item.to != null) {
+                visit(item.to, order, seen);
+            }
+        }
+        order.add(part);
+    }
+}
