@@ -47,7 +47,7 @@ final class Part {
         return size;
     }
 
-    /** This part first, and behind each part those that it leads to. */
+    /** This part first, behind each part those that it leads to, at the end the last of those. */
     byte[] bytes() {
         List<Part> order = new ArrayList<>();
         visit(this, order, new IdentityHashMap<>());
@@ -74,9 +74,9 @@ final class Part {
         if (seen.put(part, true) != null) {
             return;
         }
-        for (Item item : part.items) {
-            if (item.to != null) {
-                visit(item.to, order, seen);
+        for (int k = part.items.size() - 1; k >= 0; k--) {
+            if (part.items.get(k).to != null) {
+                visit(part.items.get(k).to, order, seen);
             }
         }
         order.add(part);
