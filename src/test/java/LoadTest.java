@@ -207,6 +207,8 @@ public final class LoadTest {
         for (int type : new int[] {0, 7, 8, 9}) {
             dueLookups("for TYPE " + type, LOOKUPS, Fonts.lookup(9, 0, Part.of(1, type).far(one)));
         }
+        // Its place 0 is its own: form 1, a COVERAGE without ranges at 2, no bits, n is 0.
+        dueLookups("for itself", OK, Fonts.lookup(9, 0, Part.of(1, 2, 0, 0, 0)));
         for (int place : new int[] {-1, Integer.MIN_VALUE, Integer.MAX_VALUE, 9000, 0x10000}) {
             dueLookups("far outside", LOOKUPS, Fonts.lookup(9, 0, Part.of(1, 1).u32(place)));
         }
@@ -287,7 +289,9 @@ public final class LoadTest {
         dueSubtable("more than covered", 1, Fonts.singles(c, 1, 3, 1, 2, 3), false);
         dueSubtable("256 by INDEX", 1, Fonts.singles(Fonts.coversRanges(0, 255, 0), 0, 256), true);
         dueSubtable("257 by INDEX", 1, Fonts.singles(Fonts.coversRanges(0, 256, 0), 0, 257), false);
-        dueLookups("value at the end", LOOKUPS, Fonts.lookup(1, 0, Part.of(1, 0, 1)));
+        // The place 0 of a COVERAGE leads to the subtable itself, here one that covers nothing.
+        dueLookups("value at the end", OK, Fonts.lookup(1, 0, Part.of(1, 0, 1, 5)));
+        dueLookups("value behind the end", LOOKUPS, Fonts.lookup(1, 0, Part.of(1, 0, 1)));
     }
 
     private static void pairs() {
@@ -329,6 +333,10 @@ public final class LoadTest {
         dueSubtable("1 by 257", 2, byClasses(one, one, 1, 257), false);
         dueSubtable("values outside", 2,
                 Fonts.pairClasses(c, 255, 255, one, one).u16(256, 256), false);
+        dueLookups("values at the end", OK,
+                Fonts.lookup(2, 0, Part.of(2, 0, 1, 4, 0, 0, 1, 2, 5, 6, 7, 8)));
+        dueLookups("values behind the end", LOOKUPS,
+                Fonts.lookup(2, 0, Part.of(2, 0, 1, 4, 0, 0, 1, 2, 5, 6, 7)));
         dueSubtable("bit 8", 2, Fonts.pairClasses(c, 256, 0, one, one).u16(0, 0), false);
         dueSubtable("bit 8 of the second", 2,
                 Fonts.pairClasses(c, 0, 256, one, one).u16(0, 0), false);
