@@ -32,6 +32,14 @@ final class Check {
         }
     }
 
+    /** As refused, of a call that answers nothing. */
+    void refusedTelling(String call, Class<? extends RuntimeException> due, Runnable body) {
+        refused(call, due, () -> {
+            body.run();
+            return 0;
+        });
+    }
+
     /** All that place answers of one glyph of the run set last. */
     void placed(String run, GlyphPositions x, int i, int... due) {
         for (int what = 0; what < due.length; what++) {
@@ -48,6 +56,14 @@ final class Check {
 
     boolean allRight() {
         return wrong == 0;
+    }
+
+    int asked() {
+        return asked;
+    }
+
+    int wrong() {
+        return wrong;
     }
 
     void end() {

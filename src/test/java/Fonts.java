@@ -75,6 +75,16 @@ final class Fonts {
         return Part.of(1).to(coverage).u16(bits).u16(value);
     }
 
+    /** Makes glyphs wider by so much. */
+    static Part widening(int by, int... glyphs) {
+        return single(covers(glyphs), 4, by);
+    }
+
+    /** A lookup that passes over none, and makes glyphs wider by so much. */
+    static Part wider(int by, int... glyphs) {
+        return lookup(1, 0, widening(by, glyphs));
+    }
+
     static Part singles(Part coverage, int bits, int many, int... values) {
         return Part.of(2).to(coverage).u16(bits, many).u16(values);
     }

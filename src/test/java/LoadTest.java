@@ -32,39 +32,20 @@ public final class LoadTest {
         CHECK.end();
     }
 
-    private static int load(byte[] bytes) {
-        return Fonts.fed(bytes).load();
-    }
-
     private static void due(String font, Part head, int due) {
-        CHECK.due(font, load(head.bytes()), due);
-    }
-
-    private static Part noScripts() {
-        return Part.of(0);
-    }
-
-    private static Part noFeatures() {
-        return Part.of(0);
-    }
-
-    private static Part noLookups() {
-        return Part.of(0);
+        CHECK.due(font, Tables.load(head), due);
     }
 
     private static void dueScripts(String font, Part scripts, int due) {
-        Part features = Fonts.tagged(new Part(), 1, Fonts.feature(), 2, Fonts.feature(),
-                3, Fonts.feature());
-        due(font, Fonts.head(scripts, features, noLookups()), due);
+        due(font, Tables.withScripts(scripts), due);
     }
 
     private static void dueFeatures(String font, Part features, int due) {
-        Part lookups = Fonts.lookups(Fonts.lookup(1, 0), Fonts.lookup(2, 0));
-        due(font, Fonts.head(noScripts(), features, lookups), due);
+        due(font, Tables.withFeatures(features), due);
     }
 
     private static void dueLookups(String font, int due, Part... lookups) {
-        due(font, Fonts.head(noScripts(), noFeatures(), Fonts.lookups(lookups)), due);
+        due(font, Tables.withLookups(lookups), due);
     }
 
     private static void dueSubtable(String font, int type, Part subtable, boolean asSaid) {
@@ -73,7 +54,7 @@ public final class LoadTest {
     }
 
     private static void head() {
-        due("the least", Fonts.head(noScripts(), noFeatures(), noLookups()), 0);
+        due("the least", Fonts.head(Tables.none(), Tables.none(), Tables.none()), 0);
         int[] least = {0, 1, 0, 0, 0, 10, 0, 10, 0, 10, 0, 0};
         int[][] changes = {{0, 1}, {1, 0}, {1, 2}, {2, 1}, {3, 1}, {5, 0}, {7, 0}, {9, 0}};
         for (int[] change : changes) {
@@ -81,9 +62,9 @@ public final class LoadTest {
             for (int i = 0; i < 12; i++) {
                 bytes[i] = (byte) least[i];
             }
-            CHECK.due("one place for all", load(bytes), 0);
+            CHECK.due("one place for all", Tables.load(bytes), 0);
             bytes[change[0]] = (byte) change[1];
-            CHECK.due("byte " + change[0] + " is " + change[1], load(bytes), HEAD);
+            CHECK.due("byte " + change[0] + " is " + change[1], Tables.load(bytes), HEAD);
         }
     }
 
@@ -95,22 +76,13 @@ public final class LoadTest {
         dueScripts("not with sign", Fonts.tagged(new Part(), -1, s, 0, s), SCRIPTS);
         dueScripts("the same tag", Fonts.tagged(new Part(), 2, s, 2, s), SCRIPTS);
         dueScripts("a lower tag", Fonts.tagged(new Part(), 2, s, 1, s), SCRIPTS);
-        dueScripts("64 scripts", many(new Part(), 64, s), 0);
-        dueScripts("65 scripts", many(new Part(), 65, s), SCRIPTS);
+        dueScripts("64 scripts", Tables.tagged(new Part(), 64, s), 0);
+        dueScripts("65 scripts", Tables.tagged(new Part(), 65, s), SCRIPTS);
         dueScripts("64 languages", Fonts.tagged(new Part(), 1,
-                many(new Part().to((Part) null), 64, Fonts.language(65535))), 0);
+                Tables.tagged(new Part().to((Part) null), 64, Fonts.language(65535))), 0);
         dueScripts("65 languages", Fonts.tagged(new Part(), 1,
-                many(new Part().to((Part) null), 65, Fonts.language(65535))), SCRIPTS);
+                Tables.tagged(new Part().to((Part) null), 65, Fonts.language(65535))), SCRIPTS);
         dueScripts("a script outside", Part.of(1).u32(7).u16(9000), SCRIPTS);
-    }
-
-    private static Part many(Part list, int many, Part part) {
-        Object[] tagged = new Object[2 * many];
-        for (int k = 0; k < many; k++) {
-            tagged[2 * k] = k;
-            tagged[2 * k + 1] = part;
-        }
-        return Fonts.tagged(list, tagged);
     }
 
     private static void dueLanguage(String font, Part language, int due) {
@@ -144,8 +116,8 @@ public final class LoadTest {
         dueFeatures("tags fall", Fonts.tagged(new Part(), 1, f, -1, f, -2, f), FEATURES);
         dueFeatures("not below", Fonts.tagged(new Part(), 1, Fonts.feature(2)), FEATURES);
         dueFeatures("anything first", Fonts.tagged(new Part(), 1, Part.of(9, 1, 1)), 2);
-        dueFeatures("64 features", many(new Part(), 64, f), 2);
-        dueFeatures("65 features", many(new Part(), 65, f), FEATURES);
+        dueFeatures("64 features", Tables.tagged(new Part(), 64, f), 2);
+        dueFeatures("65 features", Tables.tagged(new Part(), 65, f), FEATURES);
         dueFeatures("64 lookups of one",
                 Fonts.tagged(new Part(), 1, Fonts.feature(new int[64])), 2);
         dueFeatures("65 lookups of one",
@@ -164,15 +136,15 @@ public final class LoadTest {
         due("lookups wrong", Fonts.head(asks,
                 Fonts.tagged(new Part(), 1, Fonts.feature(0)), badLookups), LOOKUPS);
         due("66 features said", Fonts.head(Fonts.tagged(new Part(), 1,
-                Fonts.script(Fonts.language(65535, 65))), Part.of(66), noLookups()), FEATURES);
+                Fonts.script(Fonts.language(65535, 65))), Part.of(66), Tables.none()), FEATURES);
         Part outside = Part.of(1, 0).to(asks).u16(5000, 5000);
         due("FEATURES outside, asked for", outside, SCRIPTS);
         due("FEATURES outside, required", Part.of(1, 0).to(requires).u16(5000, 5000), SCRIPTS);
         due("FEATURES outside", Part.of(1, 0).to(asksNothing).u16(5000, 5000), FEATURES);
         Part features = Fonts.tagged(new Part(), 1, Fonts.feature(0));
         due("LOOKUPS outside, asked for",
-                Part.of(1, 0).to(noScripts(), features).u16(5000), FEATURES);
-        due("LOOKUPS outside", Part.of(1, 0).to(noScripts(), noFeatures()).u16(5000), LOOKUPS);
+                Part.of(1, 0).to(Tables.none(), features).u16(5000), FEATURES);
+        due("LOOKUPS outside", Part.of(1, 0).to(Tables.none(), Tables.none()).u16(5000), LOOKUPS);
         due("SCRIPTS outside", Part.of(1, 0).u16(5000).to(badFeatures, badLookups), SCRIPTS);
     }
 
@@ -426,19 +398,13 @@ public final class LoadTest {
                 Part.of(2).to(two, one)), false);
     }
 
-    /** Each subtable looks at 20; a lookup may be led to as often as one likes. */
     private static void inAll() {
-        Part[] lookups = new Part[64];
-        Arrays.fill(lookups, same(3, lookingAt(20), 16));
-        lookups[62] = same(3, lookingAt(20), 8);
-        lookups[63] = Fonts.lookup(1, 0);
-        dueLookups("20,000 in all", 64, lookups);
         Part none = Fonts.covers();
-        lookups[63] = Fonts.lookup(1, 0, Fonts.single(none, 0));
-        dueLookups("20,001 in all", LOOKUPS, lookups);
         Part one = Fonts.covers(1);
         Part c = Fonts.classes(0);
         Part a = Fonts.anchor(1, 2);
+        Looking.exactly(CHECK, "nothing", 0, Fonts.lookup(1, 0));
+        exactly("COVERAGE", 1, 1, Fonts.single(none, 0));
         exactly("CLASSES and COVERAGES", 3, 2, byClasses(c, c, 1, 1));
         exactly("rows", 2, 2, Fonts.pairs(one, 0, 0, Part.of(0)));
         exactly("ligatures", 4, 5, Fonts.marksOn(none, one, 1, Fonts.marks(),
@@ -448,33 +414,8 @@ public final class LoadTest {
                 Fonts.marksOn(one, one, 1, Fonts.marks(0, a), Fonts.bases(1, (Part) null)));
     }
 
-    private static Part same(int type, Part subtable, int many) {
-        Part[] subtables = new Part[many];
-        Arrays.fill(subtables, subtable);
-        return Fonts.lookup(type, 0, subtables);
-    }
-
-    /** Just 20,000 with the subtable are as said, one more in front of it is not. */
     private static void exactly(String font, int looks, int type, Part subtable) {
-        Part sixteen = same(3, lookingAt(20), 16);
-        Part[] lookups = new Part[64];
-        Arrays.fill(lookups, 0, 62, sixteen);
-        for (int more = 0; more <= 1; more++) {
-            // 62 times 16 are 992 subtables, with 7 more 999: those look at 19,980.
-            Part[] eight = new Part[8];
-            Arrays.fill(eight, 0, 7, lookingAt(20));
-            eight[7] = lookingAt(20 - looks + more);
-            lookups[62] = Fonts.lookup(3, 0, eight);
-            lookups[63] = Fonts.lookup(type, 0, subtable);
-            dueLookups(font + ", 20,000 and " + more, more == 0 ? 64 : LOOKUPS, lookups);
-        }
-    }
-
-    /** A COVERAGE, and ANCHORS for the rest. */
-    private static Part lookingAt(int many) {
-        Part[] anchors = new Part[20];
-        Arrays.fill(anchors, 0, many - 1, Fonts.anchor(1, 2));
-        return Fonts.cursive(Fonts.coversRanges(1, 10, 0), anchors);
+        Looking.exactly(CHECK, font, looks, Fonts.lookup(type, 0, subtable));
     }
 
     /** Fonts in which each byte is needed: no shorter one is as said. */
@@ -496,12 +437,12 @@ public final class LoadTest {
         };
         for (Part lookup : lookups) {
             byte[] font = Fonts.requiring(lookup);
-            CHECK.due("whole", load(font), OK);
+            CHECK.due("whole", Tables.load(font), OK);
             for (int size = 0; size < font.length; size++) {
-                int got = load(Arrays.copyOf(font, size));
+                int got = Tables.load(Arrays.copyOf(font, size));
                 CHECK.due("cut to " + size + ": " + got + " is below 0", got < 0 ? 1 : 0, 1);
             }
-            CHECK.due("9 bytes", load(Arrays.copyOf(font, 9)), HEAD);
+            CHECK.due("9 bytes", Tables.load(Arrays.copyOf(font, 9)), HEAD);
         }
     }
 

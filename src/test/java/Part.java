@@ -39,7 +39,7 @@ final class Part {
         return this;
     }
 
-    private int size() {
+    int size() {
         int size = 0;
         for (Item item : items) {
             size += item.size;
@@ -49,8 +49,24 @@ final class Part {
 
     /** This part first, behind each part those that it leads to, at the end the last of those. */
     byte[] bytes() {
+        return bytesInReverse(visited());
+    }
+
+    /** As bytes, but with a part at the end that leads to no other. */
+    byte[] bytesEndingWith(Part last) {
+        List<Part> order = visited();
+        order.removeIf(part -> part == last);
+        order.add(0, last);
+        return bytesInReverse(order);
+    }
+
+    private List<Part> visited() {
         List<Part> order = new ArrayList<>();
         visit(this, order, new IdentityHashMap<>());
+        return order;
+    }
+
+    private static byte[] bytesInReverse(List<Part> order) {
         Map<Part, Integer> at = new IdentityHashMap<>();
         int size = 0;
         for (int k = order.size() - 1; k >= 0; k--) {

@@ -15,24 +15,19 @@ public final class ToldTest {
         check.end();
     }
 
-    private static long kind(GlyphPositions x, int first, int last, int kind, int marks) {
-        x.kind(first, last, kind, marks);
-        return 0;
-    }
-
     private static void kindRefuses(Check check) {
         GlyphPositions x = new GlyphPositions();
         int[][] wrong = {{-1, 5, 0, 0}, {0, 65536, 0, 0}, {65536, 65536, 0, 0}, {0, -1, 0, 0},
             {6, 5, 0, 0}, {0, 0, -1, 0}, {0, 0, 4, 0}, {0, 0, 0, -1}, {0, 0, 0, 256}};
         for (int[] w : wrong) {
-            check.refused("kind", ARGUMENT, () -> kind(x, w[0], w[1], w[2], w[3]));
+            check.refusedTelling("kind", ARGUMENT, () -> x.kind(w[0], w[1], w[2], w[3]));
         }
         check.due("no range of those was told", x.forget(), 0);
         for (int i = 0; i < 256; i++) {
             x.kind(0, 65535, 3, 255);
         }
-        check.refused("range 257", STATE, () -> kind(x, 0, 65535, 3, 255));
-        check.refused("the first one wins", ARGUMENT, () -> kind(x, 1, 0, 3, 255));
+        check.refusedTelling("range 257", STATE, () -> x.kind(0, 65535, 3, 255));
+        check.refusedTelling("the first one wins", ARGUMENT, () -> x.kind(1, 0, 3, 255));
         check.due("forget", x.forget(), 256);
         check.due("forget again", x.forget(), 0);
         x.kind(5, 5, 0, 0);
@@ -120,11 +115,6 @@ public final class ToldTest {
         widths(check, "no DFLT, but the one told", y, 102);
     }
 
-    private static long feature(GlyphPositions x, int tag, boolean on) {
-        x.feature(tag, on);
-        return 0;
-    }
-
     private static void feature(Check check) {
         Part[] lookups = new Part[3];
         for (int k = 0; k < 3; k++) {
@@ -147,8 +137,8 @@ public final class ToldTest {
         for (int tag = 1; tag <= 18; tag++) {
             x.feature(tag, false);
         }
-        check.refused("tag 21", STATE, () -> feature(x, 19, false));
-        check.refused("tag 21", STATE, () -> feature(x, 0, true));
+        check.refusedTelling("tag 21", STATE, () -> x.feature(19, false));
+        check.refusedTelling("tag 21", STATE, () -> x.feature(0, true));
         x.feature(A, true);
         x.feature(B, false);
         x.feature(18, true);
