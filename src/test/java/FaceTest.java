@@ -2,6 +2,7 @@ import java.lang.reflect.Constructor;
 import java.lang.reflect.Field;
 import java.lang.reflect.Method;
 import java.lang.reflect.Modifier;
+import java.util.Map;
 import java.util.Set;
 import java.util.TreeSet;
 
@@ -13,6 +14,16 @@ public final class FaceTest {
             "void feature(int, boolean)", "int add(int, int, int)", "int clear()",
             "int set(boolean)", "int place(int, int)");
 
+    /** What a call may throw, in the order in which the first one wins. */
+    private static final Map<String, String> THROWS = Map.of(
+            "put", "IndexOutOfBoundsException, IllegalArgumentException",
+            "cut", "IllegalArgumentException",
+            "kind", "IllegalArgumentException, IllegalStateException",
+            "feature", "IllegalStateException",
+            "add", "IllegalArgumentException, IllegalStateException",
+            "set", "IllegalStateException",
+            "place", "IndexOutOfBoundsException");
+
     public static void main(String[] args) {
         Check check = new Check("FaceTest");
         constants(check);
@@ -22,6 +33,9 @@ public final class FaceTest {
             if (!Modifier.isPrivate(method.getModifiers())) {
                 open.add(described(method));
                 openNames.add(method.getName());
+                String thrown = names(method.getExceptionTypes());
+                check.due(method.getName() + " throws " + thrown,
+                        thrown.equals(THROWS.getOrDefault(method.getName(), "")) ? 1 : 0, 1);
             }
         }
         check.due("methods of the face: " + open, open.equals(METHODS) ? 1 : 0, 1);
@@ -56,12 +70,16 @@ public final class FaceTest {
     private static String described(Method method) {
         StringBuilder text = new StringBuilder();
         text.append(method.getReturnType().getName()).append(' ').append(method.getName());
-        text.append('(');
+        return text.append('(').append(names(method.getParameterTypes())).append(')').toString();
+    }
+
+    private static String names(Class<?>[] types) {
+        StringBuilder text = new StringBuilder();
         String between = "";
-        for (Class<?> type : method.getParameterTypes()) {
-            text.append(between).append(type.getName());
+        for (Class<?> type : types) {
+            text.append(between).append(type.getSimpleName());
             between = ", ";
         }
-        return text.append(')').toString();
+        return text.toString();
     }
 }
