@@ -7,6 +7,8 @@ public final class EdgeHangTest {
 
     public static void main(String[] args) {
         Sentences all = new Sentences("EdgeHangTest");
+        all.test("TYPE 9 stands for another one:", EdgeHangTest::standsForAnother);
+        all.test("the first subtable that takes it does.", EdgeHangTest::firstThatTakes);
         all.test("TYPE 3: there is a NEXT, the glyph has an EXIT, the NEXT an ENTRY "
                 + "(both covered):", EdgeHangTest::exitAndEntry);
         all.test("its width becomes the EXIT's x and what it is moved right; of the NEXT, ENTRY's "
@@ -38,6 +40,78 @@ public final class EdgeHangTest {
         all.test("(BACK: and by the widths, and what they are higher, of all between and of "
                 + "itself).", EdgeHangTest::andByTheWidths);
         all.end();
+    }
+
+    /** Of two subtables each; the second one takes what the first one does not. */
+    private static void standsForAnother(Check check) {
+        Part a = Fonts.anchor(30, 40);
+        Part[] none = {Fonts.widening(1, 9), Fonts.pairs(Fonts.covers(9), 0, 0, Tables.none()),
+            Fonts.cursive(Fonts.covers(9), a, a), marksOn(9, 9, a), onLigature(9, 9, a),
+            marksOn(9, 9, a)};
+        Part[] some = {Fonts.widening(5, BASE), Fonts.pairs(Fonts.covers(BASE), 4, 0,
+                Part.of(1, MARK, 5)),
+            Fonts.cursive(Fonts.covers(BASE, MARK), null, a, a, null), marksOn(MARK, BASE, a),
+            onLigature(MARK, BASE, a), marksOn(MARK, BASE, a)};
+        int[][] due = {{105, 0, 0, 0, 105, NONE}, {105, 0, 0, 0, 105, NONE},
+            {30, 0, -30, 0, 0, 0}, {100, 0, 30 - 100, 40, 30, 0}, {100, 0, 30 - 100, 40, 30, 0},
+            {100, 0, 30 - 100, 40, 30, 0}};
+        for (int type = 1; type <= 6; type++) {
+            for (Part lookup : new Part[] {
+                Fonts.lookup(type, 0, none[type - 1], some[type - 1]),
+                Fonts.far(type, 0, none[type - 1], some[type - 1])}) {
+                GlyphPositions x = marks(Fonts.loaded(lookup));
+                x.kind(BASE, BASE, type == 6 ? 3 : 1, 1);
+                Fonts.glyphs(x, BASE, MARK).set(false);
+                int[] d = due[type - 1];
+                check.due("TYPE " + type + ": width", x.place(0, 0), d[0]);
+                int width = type == 3 ? 70 : 100;
+                check.placed("TYPE " + type, x, 1, width, d[1], d[2], d[3], d[4], d[5]);
+            }
+        }
+    }
+
+    /** The mark's own ANCHOR is at 0, 0. */
+    private static Part marksOn(int mark, int base, Part anchor) {
+        return Fonts.marksOn(Fonts.covers(mark), Fonts.covers(base), 1,
+                Fonts.marks(0, Fonts.anchor(0, 0)), Fonts.bases(1, anchor));
+    }
+
+    private static Part onLigature(int mark, int base, Part anchor) {
+        return Fonts.marksOn(Fonts.covers(mark), Fonts.covers(base), 1,
+                Fonts.marks(0, Fonts.anchor(0, 0)), Part.of(1).to(Part.of(1).to(anchor)));
+    }
+
+    private static void firstThatTakes(Check check) {
+        Part seven = Fonts.anchor(7, 7);
+        Part nine = Fonts.anchor(9, 9);
+        Part zero = Fonts.anchor(0, 0);
+        Part[] first = {Fonts.cursive(Fonts.covers(BASE, MARK), null, seven, zero, null),
+            marksOn(MARK, BASE, seven), onLigature(MARK, BASE, seven), marksOn(MARK, BASE, seven)};
+        Part[] second = {Fonts.cursive(Fonts.covers(BASE, MARK), null, nine, zero, null),
+            marksOn(MARK, BASE, nine), onLigature(MARK, BASE, nine), marksOn(MARK, BASE, nine)};
+        Part[] noBase = {Fonts.cursive(Fonts.covers(MARK), zero, null),
+            marksOn(MARK, 9, seven), onLigature(MARK, 9, seven), marksOn(MARK, 9, seven)};
+        Part[] noMark = {Fonts.cursive(Fonts.covers(BASE), null, seven),
+            marksOn(9, BASE, seven), onLigature(9, BASE, seven), marksOn(9, BASE, seven)};
+        Part[] noAnchor = {Fonts.cursive(Fonts.covers(BASE, MARK), seven, null, zero, null),
+            marksOn(MARK, BASE, null), onLigature(MARK, BASE, null), marksOn(MARK, BASE, null)};
+        Part[] noEntry = {Fonts.cursive(Fonts.covers(BASE, MARK), seven, seven, null, zero),
+            noAnchor[1], noAnchor[2], noAnchor[3]};
+        for (int type = 3; type <= 6; type++) {
+            dueUp(check, type, 7, first[type - 3], second[type - 3]);
+            dueUp(check, type, 9, second[type - 3], first[type - 3]);
+            for (Part[] no : new Part[][] {noBase, noMark, noAnchor, noEntry}) {
+                dueUp(check, type, 9, no[type - 3], second[type - 3], first[type - 3]);
+            }
+        }
+    }
+
+    private static void dueUp(Check check, int type, int due, Part... subtables) {
+        GlyphPositions x = marks(Fonts.loaded(Fonts.lookup(type, 0, subtables)));
+        x.kind(BASE, BASE, type == 6 ? 3 : 1, 1);
+        Fonts.glyphs(x, BASE, MARK).set(false);
+        check.due("TYPE " + type + ": moved up", x.place(1, 3), due);
+        check.due("TYPE " + type + ": hangs on", x.place(1, 5), 0);
     }
 
     private static Part joining(Part... anchors) {
@@ -287,6 +361,16 @@ public final class EdgeHangTest {
         duePart(check, z, "no ANCHOR in the middle", 1, 1);
         duePart(check, z, "no ANCHOR in the middle", 2, 0);
         duePart(check, z, "no ANCHOR in the middle", 3, 3);
+        // Of two classes: the ANCHORS of a part stand together.
+        Part four = Part.of(2).to(Fonts.anchor(1, 0), Fonts.anchor(2, 0), Fonts.anchor(3, 0),
+                Fonts.anchor(4, 0));
+        for (int classOfMark = 0; classOfMark <= 1; classOfMark++) {
+            GlyphPositions w = marks(Fonts.loaded(Fonts.lookup(5, 0,
+                    Fonts.marksOn(Fonts.covers(MARK), Fonts.covers(80), 2,
+                            Fonts.marks(classOfMark, Fonts.anchor(0, 0)), Part.of(1).to(four)))));
+            duePart(check, w, "class " + classOfMark, 1, 1 + classOfMark);
+            duePart(check, w, "class " + classOfMark, 2, 3 + classOfMark);
+        }
         z.clear();
         hangs(check, "not the ligature", Fonts.glyphs(z, 80, 7, MARK), NONE, NONE, NONE);
         z.clear();

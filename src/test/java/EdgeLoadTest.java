@@ -12,8 +12,11 @@ public final class EdgeLoadTest {
 
     public static void main(String[] args) {
         Sentences all = new Sentences("EdgeLoadTest");
+        all.test("U16, U32 are numbers in it, the highest byte first,",
+                EdgeLoadTest::highestByteFirst);
         all.test("A PLACE (U16 if nothing else is said) counts from the beginning of the part in "
                 + "which it stands, as said in front of it;", EdgeLoadTest::placesDoNotWrap);
+        all.test("a TAG is a U32.", EdgeLoadTest::allOfATag);
         all.test("All that is read must lie in the table.", EdgeLoadTest::allMustLie);
         all.test("LOADING looks at all parts that are led to;", EdgeLoadTest::allThatAreLedTo);
         all.test("what is told is the first in this order of HEAD, SCRIPTS, FEATURES, LOOKUPS "
@@ -21,6 +24,8 @@ public final class EdgeLoadTest {
         all.test("HEAD: U16 1, U16 0,", EdgeLoadTest::oneAndZero);
         all.test("places of the SCRIPTS, the FEATURES, the LOOKUPS, none of them 0.",
                 EdgeLoadTest::noneOfThemZero);
+        all.test("SCRIPTS: U16 n, n times TAG and place of a SCRIPT;",
+                EdgeLoadTest::asManyScripts);
         all.test("tags rise (each is above the one before, as numbers without sign).",
                 EdgeLoadTest::tagsOfScriptsRise);
         all.test("SCRIPT: place of its standard LANGUAGE (0 for none);",
@@ -30,6 +35,7 @@ public final class EdgeLoadTest {
         all.test("LANGUAGE: U16 (anything),", EdgeLoadTest::languageBeginsWithAnything);
         all.test("U16 the number of the feature it REQUIRES (65535 for none),",
                 EdgeLoadTest::required);
+        all.test("U16 n, n numbers of features.", EdgeLoadTest::asManyFeatures);
         all.test("Each number is below the U16 with which FEATURES begin",
                 EdgeLoadTest::numbersOfFeatures);
         all.test("(where that does not lie in the table, what is to be below it is not as said;",
@@ -40,6 +46,8 @@ public final class EdgeLoadTest {
         all.test("FEATURE: U16 (anything),", EdgeLoadTest::featureBeginsWithAnything);
         all.test("n numbers of lookups, each below the U16 with which LOOKUPS begin.",
                 EdgeLoadTest::numbersOfLookups);
+        all.test("LOOKUPS: U16 n, n places of a LOOKUP.", EdgeLoadTest::asManyLookups);
+        all.test("U16 n, n places of SUBTABLES.", EdgeLoadTest::asManySubtables);
         all.test("LOOKUP: U16 TYPE 1 .. 6 or 9,", EdgeLoadTest::types);
         all.test("U16 FLAG (its bits counted from 0, the lowest; bit 4 is not set),",
                 EdgeLoadTest::bitFourOfFlag);
@@ -59,6 +67,42 @@ public final class EdgeLoadTest {
 
     private static void due(Check check, String table, Part head, int due) {
         check.due(table, Tables.load(head), due);
+    }
+
+    /** The other way round these would be as said, or not. */
+    private static void highestByteFirst(Check check) {
+        due(check, "1 is 0, 1", Part.of(1, 0, 10, 10, 10, 0), 0);
+        due(check, "1 is not 1, 0", Part.of(0x0100, 0, 10, 10, 10, 0), HEAD);
+        due(check, "10 is not 10, 0", Part.of(1, 0, 0x0a00, 10, 10, 0), SCRIPTS);
+        due(check, "n is not 1, 0", Part.of(1, 0, NOTHING, NOTHING, 10, 0x0100), LOOKUPS);
+        int[] far = new int[256];
+        far[0] = 1;
+        far[2] = far[3] = far[4] = 0x0100;
+        due(check, "256 is 1, 0", Part.of(far), 0);
+        Part s = Fonts.script(null);
+        due(check, "tags", Tables.withScripts(
+                Fonts.tagged(new Part(), 0x00000002, s, 0x01000000, s)), 0);
+        due(check, "tags", Tables.withScripts(
+                Fonts.tagged(new Part(), 0x01000000, s, 0x00000002, s)), SCRIPTS);
+        due(check, "U32 place is 0, 0, 0, 8", extension(0, 8), 1);
+        due(check, "U32 place is not 0, 8, 0, 0", extension(8, 0), LOOKUPS);
+        due(check, "U32 place is not 8, 0, 0, 0", extension(0x0800, 0), LOOKUPS);
+        due(check, "U32 place is not 0, 0, 8, 0", extension(0, 0x0800), LOOKUPS);
+    }
+
+    /** Of four bytes each, the last as well as the first: tags that differ in one are two. */
+    private static void allOfATag(Check check) {
+        Part s = Fonts.script(null);
+        for (int bit = 0; bit < 32; bit++) {
+            for (int tag : new int[] {0, 0x55555555, 0xaaaaaaaa, -1}) {
+                int low = tag & ~(1 << bit);
+                int high = tag | 1 << bit;
+                due(check, "bit " + bit + " of " + tag,
+                        Tables.withScripts(Fonts.tagged(new Part(), low, s, high, s)), 0);
+                due(check, "bit " + bit + " of " + tag + " falls",
+                        Tables.withScripts(Fonts.tagged(new Part(), high, s, low, s)), SCRIPTS);
+            }
+        }
     }
 
     /** Each place here would lead back to what is as said, if numbers of 16 bits wrapped. */
@@ -89,6 +133,27 @@ public final class EdgeLoadTest {
                     place == 6 ? 1 : LOOKUPS);
         }
         placesInHeadHaveNoSign(check);
+        placesNeverLeadBack(check);
+    }
+
+    private static void placesNeverLeadBack(Check check) {
+        Part l = Fonts.language(65535);
+        Part s = Fonts.script(l, 1, Fonts.language(65535));
+        Tables.neverBack(check, "SCRIPT", Tables.withScript(s), s, SCRIPTS);
+        Tables.neverBack(check, "standard LANGUAGE", Tables.withScript(s), l, SCRIPTS);
+        s = Fonts.script(null, 1, l);
+        Tables.neverBack(check, "LANGUAGE", Tables.withScript(s), l, SCRIPTS);
+        Part f = Fonts.feature(1);
+        Tables.neverBack(check, "FEATURE",
+                Tables.withFeatures(Fonts.tagged(new Part(), 1, f)), f, FEATURES);
+        Part single = Fonts.widening(1, 1);
+        Part lookup = Fonts.lookup(1, 0, single);
+        Tables.neverBack(check, "LOOKUP", Tables.withLookups(lookup), lookup, LOOKUPS);
+        Tables.neverBack(check, "subtable", Tables.withLookups(lookup), single, LOOKUPS);
+        Part nine = Part.of(1, 1).far(single);
+        lookup = Fonts.lookup(9, 0, nine);
+        Tables.neverBack(check, "subtable of TYPE 9", Tables.withLookups(lookup), nine, LOOKUPS);
+        Tables.neverBack(check, "true subtable", Tables.withLookups(lookup), single, LOOKUPS);
     }
 
     private static void placesInHeadHaveNoSign(Check check) {
@@ -128,6 +193,8 @@ public final class EdgeLoadTest {
         // Its subtable is itself: form 1, an empty COVERAGE, bits 1, a VALUE.
         Part lookup = Part.of(1, 0, 1, 0);
         Tables.needed(check, "places of subtables", Tables.withLookups(lookup), lookup, LOOKUPS);
+        Part sixteen = Part.of(1, 0, 16).u16(new int[16]);
+        Tables.needed(check, "16 of them", Tables.withLookups(sixteen), sixteen, LOOKUPS);
         leavesMustLie(check);
         everyCut(check);
     }
@@ -225,6 +292,16 @@ public final class EdgeLoadTest {
         due(check, "SCRIPTS at 256", Part.of(1, 0, 256, 10, 10, 0), SCRIPTS);
     }
 
+    /** n is one more than what is there: the last one has its tag in what comes behind. */
+    private static void asManyScripts(Check check) {
+        for (int n = 0; n <= 3; n++) {
+            byte[] table = Part.of(1, 0, 10, NOTHING, NOTHING, n).u32(1).u16(14).u32(2).u16(14)
+                    .u16(0, 0).bytes();
+            check.due(n + " of 2", Tables.load(table), n <= 2 ? 0 : SCRIPTS);
+        }
+        due(check, "a SCRIPT outside", Tables.withScripts(Part.of(1).u32(7).u16(9000)), SCRIPTS);
+    }
+
     /** Pairs of tags that rise, from the lowest byte to the sign. */
     private static final int[][] RISING = {{0, 1}, {1, 2}, {0xff, 0x100}, {0xffff, 0x10000},
         {0xffffff, 0x1000000}, {0x7fffffff, 0x80000000}, {0x80000000, 0xffffffff}, {0, -1},
@@ -290,6 +367,16 @@ public final class EdgeLoadTest {
         scripts = Fonts.tagged(new Part(), 1, Fonts.script(Fonts.language(0)));
         due(check, "the first of no features",
                 Fonts.head(scripts, Tables.none(), Tables.none()), SCRIPTS);
+    }
+
+    private static void asManyFeatures(Check check) {
+        for (int n = 0; n <= 4; n++) {
+            Part language = Part.of(0, 65535, n, 0, 1, 2, 3);
+            due(check, n + " of 3", Tables.withScript(Fonts.script(language)),
+                    n <= 3 ? 0 : SCRIPTS);
+            due(check, n + " of 3", Tables.withScript(Fonts.script(null, 1, language)),
+                    n <= 3 ? 0 : SCRIPTS);
+        }
     }
 
     private static void numbersOfFeatures(Check check) {
@@ -375,6 +462,22 @@ public final class EdgeLoadTest {
         due(check, "of none", Fonts.head(Tables.none(), features, Tables.none()), FEATURES);
     }
 
+    private static void asManyLookups(Check check) {
+        Part l = Fonts.lookup(1, 0);
+        for (int n = 0; n <= 3; n++) {
+            due(check, n + " of 2", Part.of(1, 0, NOTHING, NOTHING).to(
+                    Part.of(n).to(l, l).u16(9000)), n <= 2 ? n : LOOKUPS);
+        }
+    }
+
+    private static void asManySubtables(Check check) {
+        Part single = Fonts.widening(1, 1);
+        for (int n = 0; n <= 3; n++) {
+            due(check, n + " of 2", Tables.withLookups(
+                    Part.of(1, 0, n).to(single, single).u16(9000)), n <= 2 ? 1 : LOOKUPS);
+        }
+    }
+
     private static void types(Check check) {
         for (int type = 0; type <= 300; type++) {
             boolean asSaid = type >= 1 && type <= 6 || type == 9;
@@ -458,11 +561,16 @@ public final class EdgeLoadTest {
             {0xffff, 65536 - 34}, {0, 65536 - 34}, {0xffff, 0xffff}, {0x7fff, 0xffff},
             {0x8000, 0}};
         for (int[] place : places) {
-            due(check, place[0] + ", " + place[1], Part.of(1, 0, NOTHING, NOTHING, 32,
-                    1, 6, 0, 1, 0, 0, 0, 0, 0, 0, 0, 1, 4, 9, 0, 1, 8,
-                    1, 1, place[0], place[1], 1, 6, 0, 1, 0),
+            due(check, place[0] + ", " + place[1], extension(place[0], place[1]),
                     place == places[0] ? 1 : LOOKUPS);
         }
+    }
+
+    /** One lookup of TYPE 9, whose true subtable stands 8 bytes behind its own, and at 10. */
+    private static Part extension(int highOfPlace, int lowOfPlace) {
+        return Part.of(1, 0, NOTHING, NOTHING, 32,
+                1, 6, 0, 1, 0, 0, 0, 0, 0, 0, 0, 1, 4, 9, 0, 1, 8,
+                1, 1, highOfPlace, lowOfPlace, 1, 6, 0, 1, 0);
     }
 
     private static void howManyLookups(Check check) {

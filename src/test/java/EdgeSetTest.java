@@ -143,6 +143,34 @@ public final class EdgeSetTest {
         GlyphPositions z = byLanguage(Fonts.language(65535));
         z.feature(10, true);
         widths(check, "neither", z, 100);
+        GlyphPositions w = byLanguage(Part.of(0, 65535, 1, 0, 1));
+        w.feature(10, true);
+        w.feature(11, true);
+        widths(check, "what stands behind its features", w, 101);
+        theLastOfSixtyFour(check);
+    }
+
+    private static void theLastOfSixtyFour(Check check) {
+        Part[] lookups = new Part[64];
+        Arrays.fill(lookups, Fonts.lookup(1, 0));
+        lookups[0] = Fonts.wider(1, 1);
+        lookups[63] = Fonts.wider(2, 1);
+        Part scripts = Fonts.tagged(new Part(), Fonts.DFLT,
+                Fonts.script(Fonts.language(65535, 0, 1)));
+        Part behind = Part.of(0, 1, 63, 0);
+        GlyphPositions x = Fonts.fed(Fonts.head(scripts,
+                Fonts.tagged(new Part(), 10, Fonts.feature(0), 11, behind),
+                Fonts.lookups(lookups)).bytes());
+        check.due("load()", x.load(), 64);
+        Fonts.glyphs(x, 1);
+        x.feature(11, true);
+        widths(check, "lookup 63", x, 102);
+        x.feature(10, true);
+        widths(check, "lookups 0 and 63", x, 103);
+        x.feature(11, false);
+        widths(check, "lookup 0", x, 101);
+        x.feature(10, false);
+        widths(check, "none", x, 100);
     }
 
     private static void scriptToldOrDflt(Check check) {
@@ -220,6 +248,8 @@ public final class EdgeSetTest {
         GlyphPositions y = Fonts.loaded(Fonts.lookup(1, 0, sixteen));
         widths(check, "of sixteen", Fonts.glyphs(y, 35, 20, 36), 116, 101, 100);
         widths(check, "of none", Fonts.glyphs(Fonts.loaded(Fonts.lookup(1, 0)), 1), 100);
+        GlyphPositions w = Fonts.loaded(Part.of(1, 0, 1).to(one, two));
+        widths(check, "what stands behind its subtables", Fonts.glyphs(w, 1, 2), 101, 100);
         // Covered, but with another glyph behind it: the second subtable is asked.
         Part rowOfTwo = Fonts.pairs(Fonts.covers(1), 4, 0, Part.of(1, 2, 10));
         Part rowOfThree = Fonts.pairs(Fonts.covers(1), 4, 0, Part.of(2, 2, 20, 3, 30));
@@ -332,6 +362,9 @@ public final class EdgeSetTest {
                 Fonts.singles(Fonts.covers(glyphs), 4, 256, numbers)));
         widths(check, "of 256", Fonts.glyphs(y, 0, 3, 381, 384, 762, 765, 764, 766, 768),
                 100, 101, 227, 228, 354, 355, 100, 100, 100);
+        GlyphPositions z = Fonts.loaded(Fonts.lookup(1, 0,
+                Fonts.single(Part.of(1, 2, 5, 6, 7), 4, 1)));
+        widths(check, "what stands behind n glyphs", Fonts.glyphs(z, 5, 6, 7), 101, 101, 100);
     }
 
     private static void indexOfRanges(Check check) {
@@ -341,6 +374,9 @@ public final class EdgeSetTest {
         Fonts.glyphs(x, 0, 1, 2, 4, 5, 6, 7, 8, 9, 10, 65533, 65534, 65535);
         widths(check, "form 2", x,
                 101, 102, 100, 100, 103, 100, 104, 105, 106, 100, 100, 107, 108);
+        GlyphPositions z = Fonts.loaded(Fonts.lookup(1, 0,
+                Fonts.single(Part.of(2, 1, 5, 6, 0, 7, 7, 2), 4, 1)));
+        widths(check, "what stands behind n ranges", Fonts.glyphs(z, 5, 6, 7), 101, 101, 100);
     }
 
     /** First glyphs are 1 alone, of class 0; the second's class k makes it wider by k and 1. */
@@ -367,6 +403,11 @@ public final class EdgeSetTest {
         secondClass(check, Fonts.classes(65534, 3, 2), 65534, 3);
         secondClass(check, Fonts.classes(65534, 3, 2), 65535, 2);
         secondClass(check, Fonts.classes(65534, 3, 2), 65533, 0);
+        Part behind = Part.of(1, 10, 2, 3, 2, 1, 1, 1);
+        int[][] dueBehind = {{10, 3}, {11, 2}, {12, 0}, {13, 0}, {14, 0}};
+        for (int[] d : dueBehind) {
+            secondClass(check, behind, d[0], d[1]);
+        }
     }
 
     private static void othersHaveClassZero(Check check) {
@@ -376,6 +417,8 @@ public final class EdgeSetTest {
         for (int[] d : due) {
             secondClass(check, ranges, d[0], d[1]);
         }
+        secondClass(check, Part.of(2, 1, 10, 10, 3, 11, 11, 2), 10, 3);
+        secondClass(check, Part.of(2, 1, 10, 10, 3, 11, 11, 2), 11, 0);
         secondClass(check, Fonts.classRanges(), 7, 0);
         secondClass(check, Fonts.classes(7), 7, 0);
         secondClass(check, Fonts.classRanges(0, 65535, 2), 0, 2);
@@ -465,6 +508,10 @@ public final class EdgeSetTest {
         }
         x.clear();
         widths(check, "no NEXT", Fonts.glyphs(x, 2, 1), 100, 100);
+        GlyphPositions z = Fonts.loaded(Fonts.lookup(2, 0,
+                Fonts.pairs(Fonts.covers(1), 4, 0, Part.of(1, 2, 10, 3, 10))));
+        widths(check, "what stands behind m glyphs", Fonts.glyphs(z, 1, 2, 1, 3),
+                110, 100, 100, 100);
         Part wide = Part.of(256);
         for (int k = 0; k < 256; k++) {
             wide.u16(2 * k, k);

@@ -9,6 +9,8 @@ public final class EdgeSubtableTest {
 
     public static void main(String[] args) {
         Sentences all = new Sentences("EdgeSubtableTest");
+        all.test("A PLACE (U16 if nothing else is said) counts from the beginning of the part in "
+                + "which it stands, as said in front of it;", EdgeSubtableTest::neverBack);
         all.test("All that is read must lie in the table.", EdgeSubtableTest::allMustLie);
         all.test("COVERAGE, form 1: U16 n, n glyphs, rising:", EdgeSubtableTest::glyphsRise);
         all.test("Form 2: U16 n, n times U16 first, last, INDEX of the first: "
@@ -30,11 +32,14 @@ public final class EdgeSubtableTest {
                 + "U16 n (how many are covered),", EdgeSubtableTest::asManyRows);
         all.test("n places by INDEX of: U16 m, m times a glyph (rising) and a VALUE for the "
                 + "first, one for the second.", EdgeSubtableTest::rowsRise);
-        all.test("two places of CLASSES (of the first, of the second), U16 n, U16 m, "
-                + "n times m such two VALUES.", EdgeSubtableTest::valuesByClasses);
+        all.test("Form 2: COVERAGE, bits, bits, two places of CLASSES (of the first, of the "
+                + "second), U16 n, U16 m, n times m such two VALUES.",
+                EdgeSubtableTest::valuesByClasses);
         all.test("TYPE 3, form 1: COVERAGE, U16 n (how many are covered), n times two places "
                 + "(0 for none) of ANCHORS by INDEX: ENTRY and EXIT.",
                 EdgeSubtableTest::asManyEntriesAndExits);
+        all.test("TYPE 4, form 1: places of two COVERAGES, of marks and of bases, U16 c, place of "
+                + "the MARKS, place of the BASES.", EdgeSubtableTest::fourPlaces);
         all.test("MARKS: U16 n (how many marks are covered),", EdgeSubtableTest::asManyMarks);
         all.test("n times U16 a class below c, place (from the MARKS) of an ANCHOR.",
                 EdgeSubtableTest::classBelowC);
@@ -100,11 +105,55 @@ public final class EdgeSubtableTest {
                 Tables.withLookups(Fonts.far(type, 0, subtable)), last, LOOKUPS);
     }
 
+    private static void back(Check check, String part, int type, Part subtable, Part early) {
+        Tables.neverBack(check, "TYPE " + type + ": " + part,
+                Tables.withSubtable(type, subtable), early, LOOKUPS);
+    }
+
+    private static void neverBack(Check check) {
+        Part c = Fonts.covers(1);
+        back(check, "COVERAGE", 1, Fonts.single(c, 0), c);
+        back(check, "COVERAGE, form 2", 1, Fonts.singles(c, 0, 1), c);
+        Part row = Part.of(0);
+        back(check, "COVERAGE", 2, Fonts.pairs(c, 0, 0, row), c);
+        back(check, "a row", 2, Fonts.pairs(c, 0, 0, row), row);
+        Part first = Fonts.classes(0);
+        Part second = Fonts.classRanges();
+        Part pairs = Fonts.pairClasses(c, 0, 0, first, second).u16(1, 1);
+        back(check, "COVERAGE, form 2", 2, pairs, c);
+        back(check, "CLASSES of the first", 2, pairs, first);
+        back(check, "CLASSES of the second", 2, pairs, second);
+        Part entry = Fonts.anchor(1, 2);
+        Part exit = Fonts.anchor(3, 4);
+        back(check, "COVERAGE", 3, Fonts.cursive(c, entry, exit), c);
+        back(check, "ENTRY", 3, Fonts.cursive(c, entry, exit), entry);
+        back(check, "EXIT", 3, Fonts.cursive(c, entry, exit), exit);
+        for (int type = 4; type <= 6; type++) {
+            Part own = Fonts.anchor(1, 2);
+            Part other = Fonts.anchor(3, 4);
+            Part ofBases = Fonts.covers(2);
+            Part marks = Part.of(1, 0).to(own);
+            Part ligature = Part.of(1).to(other);
+            Part bases = type == 5 ? Part.of(1).to(ligature) : Fonts.bases(1, other);
+            Part subtable = Fonts.marksOn(c, ofBases, 1, marks, bases);
+            back(check, "COVERAGE of marks", type, subtable, c);
+            back(check, "COVERAGE of bases", type, subtable, ofBases);
+            back(check, "MARKS", type, subtable, marks);
+            back(check, "BASES", type, subtable, bases);
+            back(check, "ANCHOR of a mark", type, subtable, own);
+            back(check, "ANCHOR of a base", type, subtable, other);
+            if (type == 5) {
+                back(check, "a ligature", type, subtable, ligature);
+            }
+        }
+    }
+
     private static void allMustLie(Check check) {
         Part no = Fonts.covers();
         Part k = Fonts.classes(0);
         for (Part c : new Part[] {Fonts.covers(), Fonts.covers(3, 4),
-            Fonts.coversRanges(), Fonts.coversRanges(3, 3, 0, 4, 4, 1)}) {
+            Fonts.coversRanges(), Fonts.coversRanges(3, 4, 0),
+            Fonts.coversRanges(3, 3, 0, 4, 4, 1)}) {
             int many = c.size() > 4 ? 2 : 0;
             needed(check, "COVERAGE", 1, Fonts.single(c, 0), c);
             needed(check, "COVERAGE", 1, Fonts.singles(c, 0, many), c);
@@ -136,6 +185,9 @@ public final class EdgeSubtableTest {
         needed(check, "VALUES by INDEX", 1, singles, singles);
         Part classes = Part.of(2, 16, 255, 3, 20, 20, 1, 1, 1, 0, 2, 0, 0, 0, 0, 0, 0, 0);
         needed(check, "VALUES by CLASSES", 2, classes, classes);
+        // Its COVERAGE stands at 4; the rows at 0, but for one at 13, which is empty.
+        Part pairs = Part.of(1, 4, 2, 1, 7, 13, 0, 0, 0, 0, 0, 0);
+        needed(check, "places of rows", 2, pairs, pairs);
         Part row = Part.of(2, 7, 1, 2, 3, 8, 4, 5, 6);
         needed(check, "a row", 2, Fonts.pairs(Fonts.covers(1), 5, 2, row), row);
         Part empty = Tables.none();
@@ -217,6 +269,14 @@ public final class EdgeSubtableTest {
         dueCoverage(check, "from 0 again", Fonts.coversRanges(1, 3, 0, 9, 9, 0), 4, false);
         dueCoverage(check, "a gap at last", Fonts.coversRanges(1, 1, 0, 2, 2, 1, 3, 3, 3),
                 3, false);
+        int[] many = new int[36];
+        for (int k = 0; k < 12; k++) {
+            Arrays.fill(many, 3 * k, 3 * k + 2, 5 * k);
+            many[3 * k + 2] = k;
+        }
+        dueCoverage(check, "twelve ranges", Fonts.coversRanges(many), 12, true);
+        many[35] = 12;
+        dueCoverage(check, "a gap before the twelfth", Fonts.coversRanges(many), 12, false);
         dueCoverage(check, "65535 behind 65535 of them",
                 Fonts.coversRanges(0, 65534, 0, 65535, 65535, 65535), 65536, true);
     }
@@ -404,6 +464,32 @@ public final class EdgeSubtableTest {
             int[] places = new int[4];
             places[k] = 9000;
             due(check, "outside " + k, 3, Part.of(1).to(TWO).u16(2).u16(places), false);
+        }
+    }
+
+    /** One covered mark and two covered bases: where one stands for the other, n is another one. */
+    private static void fourPlaces(Check check) {
+        Part one = Fonts.covers(1);
+        Part bases = Fonts.bases(2, new Part[2]);
+        for (int type = 4; type <= 6; type += 2) {
+            due(check, "as said", type, Fonts.marksOn(one, TWO, 1, marks(1), bases), true);
+            due(check, "COVERAGES changed", type,
+                    Fonts.marksOn(TWO, one, 1, marks(1), bases), false);
+            due(check, "MARKS and BASES changed", type,
+                    Fonts.marksOn(one, TWO, 1, bases, marks(1)), false);
+            for (int k = 0; k < 4; k++) {
+                Part[] parts = {one, TWO, marks(1), bases};
+                Part part = Part.of(1);
+                for (int j = 0; j < 4; j++) {
+                    part.u16(j == 2 ? new int[] {1} : new int[0]);
+                    if (j == k) {
+                        part.u16(9000);
+                    } else {
+                        part.to(parts[j]);
+                    }
+                }
+                due(check, "outside " + k, type, part, false);
+            }
         }
     }
 

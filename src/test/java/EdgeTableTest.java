@@ -28,8 +28,6 @@ public final class EdgeTableTest {
         all.test("a set() that throws sets nothing", EdgeTableTest::setThatThrows);
         all.test("where it lists more than one exception, the first one wins.",
                 EdgeTableTest::firstOneWins);
-        all.test("and nothing about an object after its 512th call.",
-                EdgeTableTest::callsThatNeverThrow);
         all.end();
     }
 
@@ -274,18 +272,5 @@ public final class EdgeTableTest {
         for (int[] g : glyphs) {
             check.refused("add", ARGUMENT, () -> x.add(g[0], g[1], g[2]));
         }
-    }
-
-    /** What is answered behind 512 calls is free; that nothing else is thrown is not. */
-    private static void callsThatNeverThrow(Check check) {
-        GlyphPositions x = new GlyphPositions();
-        for (int k = 0; k < 3000; k++) {
-            x.feed(k * 0x9e3779b9);
-            x.choose(k, -k);
-            x.load();
-            x.forget();
-            x.clear();
-        }
-        check.due("clear()", x.clear(), 0);
     }
 }

@@ -60,6 +60,14 @@ final class Part {
         return bytesInReverse(order);
     }
 
+    /** As bytes, but with a part just behind this one: places of it lead back, below 0. */
+    byte[] bytesWithEarly(Part early) {
+        List<Part> order = visited();
+        order.removeIf(part -> part == early);
+        order.add(order.size() - 1, early);
+        return bytesInReverse(order);
+    }
+
     private List<Part> visited() {
         List<Part> order = new ArrayList<>();
         visit(this, order, new IdentityHashMap<>());

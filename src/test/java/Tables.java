@@ -51,6 +51,12 @@ final class Tables {
         return Fonts.tagged(list, tagged);
     }
 
+    /** As said where the part stands behind what leads to it, but not where it stands before. */
+    static void neverBack(Check check, String part, Part head, Part early, int due) {
+        check.due(part + " behind", load(head) >= 0 ? 1 : 0, 1);
+        check.due(part + " before", load(head.bytesWithEarly(early)), due);
+    }
+
     /** The part stands at the end of the table; each of its bytes is needed. */
     static void needed(Check check, String part, Part head, Part last, int due) {
         byte[] whole = head.bytesEndingWith(last);
