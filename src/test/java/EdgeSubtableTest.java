@@ -173,8 +173,23 @@ public final class EdgeSubtableTest {
             needed(check, "CLASSES of the second", 2,
                     Fonts.pairClasses(no, 0, 0, k, classes).u16(1, 1), classes);
         }
+        beginningsMustLie(check);
         valuesMustLie(check);
         anchorsMustLie(check);
+    }
+
+    /** In these the COVERAGE and the CLASSES are 2, 0 (none at all), in what is said anyway. */
+    private static void beginningsMustLie(Check check) {
+        Part single = Part.of(1, 2, 0);
+        needed(check, "form 1", 1, single, single);
+        Part singles = Part.of(2, 4, 2, 0);
+        needed(check, "form 2", 1, singles, singles);
+        Part pairs = Part.of(1, 4, 2, 0, 0);
+        needed(check, "form 1", 2, pairs, pairs);
+        Part classes = Part.of(2, 4, 2, 0, 4, 4, 0, 0);
+        needed(check, "form 2", 2, classes, classes);
+        Part cursive = Part.of(1, 2, 0);
+        needed(check, "form 1", 3, cursive, cursive);
     }
 
     /** In these the COVERAGE and the CLASSES stand in the VALUES, so that nothing is behind. */
