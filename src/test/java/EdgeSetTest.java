@@ -185,6 +185,12 @@ public final class EdgeSetTest {
             x.choose(row[0], row[1]);
             widths(check, "choose(" + row[0] + ", " + row[1] + ")", x, row[2]);
         }
+        int before = 0;
+        for (int i = 6; i < 10; i++) {
+            before = before << 8 | x.put(i, 0);
+        }
+        x.choose(before, 0);
+        widths(check, "what stands before the scripts is no tag", x, 102);
         for (int near : new int[] {dflt - 1, dflt + 1, dflt ^ 0x20202020, dflt + 0x1000000}) {
             GlyphPositions y = byScripts(
                     Fonts.tagged(new Part(), near, Fonts.script(Fonts.language(0))));

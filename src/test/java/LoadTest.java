@@ -368,7 +368,10 @@ public final class LoadTest {
             dueSubtable("257 bases", type, Fonts.marksOn(m, Fonts.coversRanges(1, 257, 0), 2,
                     marks, Fonts.bases(257, new Part[514])), false);
         }
-        // A mark's place is never 'none': 0 leads to the MARKS themselves, here an ANCHOR by chance.
+        // Both COVERAGES are the subtable itself, which covers nothing; MARKS and BASES have none.
+        dueLookups("12 bytes at the end", OK, Fonts.lookup(4, 0, Part.of(1, 0, 0, 0, 2, 2)));
+        dueLookups("10 bytes at the end", LOOKUPS, Fonts.lookup(4, 0, Part.of(1, 0, 0, 0, 2)));
+        // A mark's place is never none: 0 leads to the MARKS themselves, here an ANCHOR by chance.
         dueSubtable("mark's place 0", 4, Fonts.marksOn(m, b, 2,
                 Part.of(2, 0, 0, 1, 0), bases), true);
         dueSubtable("mark's place 0, no ANCHOR", 4, Fonts.marksOn(Fonts.covers(1, 2, 3, 4), b, 1,
